@@ -481,11 +481,6 @@ public final class LaterJury {
         int beginning() {
             return begin < states ? begin : 0;
         }
-
-        int yearOn(int s, int verdict) {
-            int next = becomes[s * VERDICTS + verdict];
-            return next < states ? next : s;
-        }
     }
 
     /** Reads a text; where it can't go on, the place of the token that it looks at is the fault. */
@@ -777,11 +772,16 @@ public final class LaterJury {
         }
     }
 
-    /** All that can be lived. A row is a number that stands for verdicts of all trials, the first one's weighing most. */
+    /**
+     * All that can be lived. A row is a number that stands for verdicts of all trials, the first one's
+     * weighing most, so that lives come in the order of their rows.
+     */
     private static final class Lives {
         Told told = new Told();
         int begin = 0;
         int quorum = QUORUM_AT_FIRST;
+        /** By state and verdict: who one is a year on. */
+        final int[] yearOn = new int[MOST_STATES * VERDICTS];
         /** By year and state: who one is behind the year's deeds. */
         final int[] behindDeeds = new int[MOST_YEARS * MOST_STATES];
         final int[] self = new int[MOST_YEARS];
@@ -793,13 +793,21 @@ public final class LaterJury {
             told = what;
             begin = told.beginning();
             quorum = told.quorum;
-            for (int year = 0; year < told.years; year++) {
-                for (int s = 0; s < told.states; s++) {
-                    behindDeeds[year * MOST_STATES + s] = s;
-                }
+            for (int s = 0; s < told.states; s++) {
+                prepareState(s);
             }
             for (int i = 0; i < done.size; i++) {
                 addDeed(done.year[i], done.kind[i]);
+            }
+        }
+
+        void prepareState(int s) {
+            for (int v = 0; v < VERDICTS; v++) {
+                int next = told.becomes[s * VERDICTS + v];
+                yearOn[s * VERDICTS + v] = next < told.states ? next : s;
+            }
+            for (int year = 0; year < told.years; year++) {
+                behindDeeds[year * MOST_STATES + s] = s;
             }
         }
 
@@ -849,7 +857,21 @@ public final class LaterJury {
         }
 
         boolean isLife(int row) {
-            live(row);
+            giveVerdicts(row);
+            return holds();
+        }
+
+        void giveVerdicts(int row) {
+            int rest = row;
+            for (int t = told.trials - 1; t >= 0; t--) {
+                verdict[t] = rest % VERDICTS;
+                rest /= VERDICTS;
+            }
+        }
+
+        /** Each verdict is the word of the jury that the verdicts make. */
+        boolean holds() {
+            live();
             for (int t = 0; t < told.trials; t++) {
                 if (juryWord(t) != verdict[t]) {
                     return false;
@@ -858,12 +880,7 @@ public final class LaterJury {
             return true;
         }
 
-        void live(int row) {
-            int rest = row;
-            for (int t = told.trials - 1; t >= 0; t--) {
-                verdict[t] = rest % VERDICTS;
-                rest /= VERDICTS;
-            }
+        void live() {
             int s = behindDeeds[begin];
             self[0] = s;
             int t = 0;
@@ -873,7 +890,7 @@ public final class LaterJury {
                     given = verdict[t];
                     t++;
                 }
-                s = behindDeeds[year * MOST_STATES + told.yearOn(s, given)];
+                s = behindDeeds[year * MOST_STATES + yearOn[s * VERDICTS + given]];
                 self[year] = s;
             }
         }
@@ -908,23 +925,20 @@ public final class LaterJury {
             return only;
         }
 
-        /** Rows that acquit come first: mostly none of them is a life, and the others need not be lived. */
         boolean surelyAcquitted(int t) {
+            // those that acquit come first: mostly none of them holds, and the others need not be lived
+            return someLife(t, true) && !someLife(t, false);
+        }
+
+        boolean someLife(int t, boolean acquitted) {
             int rows = rows();
-            int weight = ROWS_BY_TRIALS[told.trials - 1 - t];
-            boolean acquittedInOne = false;
-            for (int row = 0; row < rows && !acquittedInOne; row++) {
-                acquittedInOne = row / weight % VERDICTS == ACQUITTED && isLife(row);
-            }
-            if (!acquittedInOne) {
-                return false;
-            }
             for (int row = 0; row < rows; row++) {
-                if (row / weight % VERDICTS != ACQUITTED && isLife(row)) {
-                    return false;
+                giveVerdicts(row);
+                if ((verdict[t] == ACQUITTED) == acquitted && holds()) {
+                    return true;
                 }
             }
-            return true;
+            return false;
         }
 
         /** 0: behind how many steps the verdicts come round, 1: how many of them do. */
@@ -945,7 +959,8 @@ public final class LaterJury {
         }
 
         int rowOfWords(int row) {
-            live(row);
+            giveVerdicts(row);
+            live();
             int next = 0;
             for (int t = 0; t < told.trials; t++) {
                 next = next * VERDICTS + juryWord(t);
@@ -1005,7 +1020,7 @@ public final class LaterJury {
             for (int s = 0; s < told.states; s++) {
                 if ((now >> s & 1) == 1) {
                     for (int v = 0; v < verdicts; v++) {
-                        next |= 1 << behindDeeds[year * MOST_STATES + told.yearOn(s, v)];
+                        next |= 1 << behindDeeds[year * MOST_STATES + yearOn[s * VERDICTS + v]];
                     }
                 }
             }
@@ -1061,9 +1076,11 @@ public final class LaterJury {
             second[t] = other;
         }
 
-        /** A deed that meets nobody changes no life: without it as much is reached by fewer. */
-        static boolean meetsSomebody(Told told, int kind, int reachedInYear) {
-            return (reachedInYear >> told.deedFrom[kind] & 1) == 1;
+        /** A deed that changes nobody changes no life: without it as much is reached by fewer. */
+        static boolean changesSomebody(Told told, int kind, int reachedInYear) {
+            int from = told.deedFrom[kind];
+            int to = told.deedTo[kind];
+            return from != to && to < told.states && (reachedInYear >> from & 1) == 1;
         }
 
         static int code(int year, int kind) {
@@ -1075,7 +1092,7 @@ public final class LaterJury {
             for (int year = 0; year < told.years; year++) {
                 lives.saveYear(year, yearAheadOfFirst);
                 for (int kind = 0; kind < told.deeds; kind++) {
-                    if (!meetsSomebody(told, kind, reachedAhead[year])) {
+                    if (!changesSomebody(told, kind, reachedAhead[year])) {
                         continue;
                     }
                     lives.addDeed(year, kind);
@@ -1096,7 +1113,7 @@ public final class LaterJury {
             for (int year = 0; year < told.years && !helps; year++) {
                 lives.saveYear(year, yearAheadOfFirst);
                 for (int kind = 0; kind < told.deeds && !helps; kind++) {
-                    if (meetsSomebody(told, kind, reachedAhead[year])) {
+                    if (changesSomebody(told, kind, reachedAhead[year])) {
                         lives.addDeed(year, kind);
                         helps = searchSecond(lives, t, year, code(year, kind));
                         lives.restoreYear(year, yearAheadOfFirst);
@@ -1105,14 +1122,17 @@ public final class LaterJury {
             }
         }
 
-        /** Deeds of different years do the same in either order, so a second one in an earlier year was tried before. */
+        /**
+         * Deeds of different years do the same in either order,
+         * so a second one in an earlier year than the first was tried before.
+         */
         boolean searchSecond(Lives lives, int t, int firstYear, int firstCode) {
             Told told = lives.told;
             lives.reach(reachedByFirst);
             for (int year = firstYear; year < told.years; year++) {
                 lives.saveYear(year, yearAheadOfSecond);
                 for (int kind = 0; kind < told.deeds; kind++) {
-                    if (!meetsSomebody(told, kind, reachedByFirst[year])) {
+                    if (!changesSomebody(told, kind, reachedByFirst[year])) {
                         continue;
                     }
                     lives.addDeed(year, kind);

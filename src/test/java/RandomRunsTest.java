@@ -147,7 +147,7 @@ public final class RandomRunsTest {
             case 3 -> same("quorum(" + k + ")", x.quorum(k), o.quorum(k));
             default -> {
                 // the oracle's help is slow
-                if (below(6) == 0) {
+                if (below(2) == 0) {
                     same("help(" + t + ", " + w3 + ")", x.help(t, w3), o.help(t, w3));
                 }
             }

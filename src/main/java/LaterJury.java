@@ -412,8 +412,8 @@ public final class LaterJury {
     private static int commonDivisor(int a, int b) {
         int greater = a;
         int lesser = b;
-        // lesser falls with each turn, and begins as a number of states
-        while (lesser > 0) {
+        // lesser falls with each turn, so that b turns are enough
+        for (int turn = 0; turn < b && lesser > 0; turn++) {
             int rest = greater % lesser;
             greater = lesser;
             lesser = rest;

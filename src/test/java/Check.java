@@ -31,10 +31,6 @@ final class Check {
         return x;
     }
 
-    static boolean allRight() {
-        return wrong == 0;
-    }
-
     static void end() {
         System.out.println(asked + " answers asked, " + wrong + " not as due");
         if (wrong != 0 || asked == 0) {

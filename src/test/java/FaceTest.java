@@ -79,8 +79,49 @@ public final class FaceTest {
         return source.replaceAll("(?s)/\\*.*?\\*/", "").replaceAll("//[^\\n]*", "");
     }
 
+    private static String file() throws IOException {
+        return Files.readString(Path.of("src/main/java/LaterJury.java"));
+    }
+
+    /** Rules 5 and 11: static fields are final, and no class has too many of its own. */
+    private static void classesInside() {
+        Class<?>[] inside = LaterJury.class.getDeclaredClasses();
+        Check.due("twelve classes at most", inside.length + 1 <= 12 ? 1 : 0, 1);
+        fields(LaterJury.class);
+        for (Class<?> one : inside) {
+            Check.due(one + " is not seen from outside", one.getModifiers() & (Modifier.PUBLIC | Modifier.PROTECTED), 0);
+            fields(one);
+        }
+    }
+
+    private static void fields(Class<?> one) {
+        int own = 0;
+        for (Field field : one.getDeclaredFields()) {
+            if (Modifier.isStatic(field.getModifiers())) {
+                Check.due(field + " is final", Modifier.isFinal(field.getModifiers()) ? 1 : 0, 1);
+            } else {
+                own++;
+            }
+        }
+        Check.due(one + " has twenty fields at most", own <= 20 ? 1 : 0, 1);
+    }
+
+    /** Rule 11: from a method's first line to the brace that stands as far in as it does. */
+    private static void methodsAreShort() throws IOException {
+        Matcher method = Pattern.compile("(?m)^( {4}| {8})(?=\\S)[\\w\\[\\] ]+\\([^)\\n]*\\) \\{\\n"
+                + "(?s:.*?)\\n\\1\\}").matcher(file());
+        int met = 0;
+        while (method.find()) {
+            long lines = method.group().lines().count();
+            String head = method.group().lines().findFirst().orElse("").trim();
+            Check.due(head + " has sixty lines at most", lines <= 60 ? 1 : 0, 1);
+            met++;
+        }
+        Check.due("all methods were looked at", met > 60 ? 1 : 0, 1);
+    }
+
     private static void source() throws IOException {
-        String code = withoutComments(Files.readString(Path.of("src/main/java/LaterJury.java")));
+        String code = withoutComments(file());
         List<String> met = new ArrayList<>();
         Matcher banned = Pattern.compile("\\b(throw|throws|try|catch|synchronized|assert|import|package|var|yield"
                 + "|float|double|hashCode|toString|Thread|System\\.(?!arraycopy)\\w+)\\b|->|::").matcher(code);
@@ -93,6 +134,8 @@ public final class FaceTest {
     public static void main(String[] args) throws IOException {
         methods();
         fieldsAndConstructors();
+        classesInside();
+        methodsAreShort();
         source();
         Check.end();
     }

@@ -1,19 +1,7 @@
-/** Promises 1 to 7: a new object, the text, what it tells. */
+/** Promises 1 to 7: a new object, the text, what it tells; where its faults are is asked by TextEdgesTest. */
 public final class LifeTest {
     private static void due(String call, long got, long want) {
         Check.due(call, got, want);
-    }
-
-    /** What court() answers to a text on a new object; the text stays if it has a fault, and is gone if not. */
-    private static void court(String text, int want) {
-        LaterJury x = new LaterJury();
-        Check.type(x, text);
-        due("court() of '" + text + "'", x.court(), want);
-        due("bytes behind '" + text + "'", x.count(9), want < 0 ? text.length() : 0);
-    }
-
-    private static void fault(String text, int place) {
-        court(text, -10 - place);
     }
 
     private static void newObject() {
@@ -52,97 +40,6 @@ public final class LifeTest {
         due("clear() again", x.clear(), 0);
         due("court() behind clear()", x.court(), 0);
         due("count(0)", x.count(0), 12);
-    }
-
-    private static void texts() {
-        court("", 0);
-        court("    ", 0);
-        court("y2;", 1);
-        court(" y  16 ; ", 1);
-        court("q1;b5;y16;", 3);
-        court("s0 0 0 0 0;s18 1 5 5 5;", 2);
-        court("t0 1 1;t1 11 11;t10 11 11;", 3);
-        court("y2;t0 1 1;", 2);
-        court("d5 5;d0 0;d0 5;d5 0;", 4);
-        court("q9;", 1);
-        court("t 0 1 11;b 0;", 2);
-    }
-
-    private static void faults() {
-        fault("y1;", 1);
-        fault("y17;", 1);
-        fault("y 0;", 2);
-        fault("y3;y3;", 3);
-        fault("t0 1 1;y3;", 7);
-        fault("s19 0 0 0 0;", 1);
-        fault("s0 2 0 0 0;", 3);
-        fault("s0 0 6 0 0;", 5);
-        fault("s0 0 0 6 0;", 7);
-        fault("s0 0 0 0 6;", 9);
-        fault("b6;", 1);
-        fault("b0; b0;", 4);
-        fault("q0;", 1);
-        fault("q10;", 1);
-        fault("q1;q1;", 3);
-        fault("d6 0;", 1);
-        fault("d0 6;", 3);
-        fault("t11 11 11;", 1);
-        fault("t0 0 1;", 3);
-        fault("t0 12 12;", 3);
-        fault("t0 2 1;", 5);
-        fault("t0 1 12;", 5);
-        fault("y5;t0 1 5;", 8);
-        fault("y5;t4 4 4;", 4);
-        fault("t1 2 2;t1 2 2;", 8);
-        fault("t1 2 2;t0 2 2;", 8);
-        fault("t1 2 2;t2 3 3;t3 4 4;t4 5 5;", 21);
-        fault("d0 0;d0 0;d0 0;d0 0;d0 0;", 20);
-        fault("s0 0 0 0 0;s0 0 0 0 0;s0 0 0 0 0;s0 0 0 0 0;s0 0 0 0 0;s0 0 0 0 0;s0 0 0 0 0;", 66);
-    }
-
-    private static void tokens() {
-        fault("x1;", 0);
-        fault("a1;", 0);
-        fault("z1;", 0);
-        fault("y3;s9z;", 5);
-        fault("y3;za;", 3);
-        fault("ya;", 0);
-        fault("yz3;", 0);
-        fault("b99;", 1);
-        fault("yy3;", 0);
-        fault("y3;bq1;", 3);
-        fault("Y3;", 0);
-        fault("3;", 0);
-        fault(";", 0);
-        fault("y3;;", 3);
-        fault("y;", 1);
-        fault("y3 4;", 3);
-        fault("y3b1;", 2);
-        fault("yb;", 0);
-        fault("y b;", 2);
-        fault("b03;", 1);
-        fault("b00;", 1);
-        fault("b 100;", 2);
-        fault("b99999999999999999999;", 1);
-        fault("b4294967296;", 1);
-        fault("b0;" + (char) 9 + "q1;", 3);
-        fault("b0" + (char) 255 + ";", 2);
-        fault("b" + (char) 0, 1);
-        fault("b-1;", 1);
-        fault("y3;x", 3);
-        // the first token that can't stand, though a later one is no token at all
-        fault("b6;#", 1);
-        fault("y17", 1);
-    }
-
-    private static void endsTooEarly() {
-        fault("y", 1);
-        fault("y3", 2);
-        fault("y3  ", 4);
-        fault("t0 1", 4);
-        fault("s0 0 0 0 ", 9);
-        fault("q1;d1 2", 7);
-        fault("b0;s", 4);
     }
 
     private static void faultChangesNothing() {
@@ -235,10 +132,6 @@ public final class LifeTest {
         newObject();
         type();
         clear();
-        texts();
-        faults();
-        tokens();
-        endsTooEarly();
         faultChangesNothing();
         readAnew();
         readTwiceAnew();

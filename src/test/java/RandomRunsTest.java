@@ -3,6 +3,8 @@ import java.util.Random;
 /** Runs of calls drawn with a fixed seed, each answer against the oracle's. */
 public final class RandomRunsTest {
     private static final int RUNS = 400, CALLS = 512;
+    /** What change() asks at the most: an object is good for so many calls, and no more may be asked. */
+    private static final int CALLS_OF_A_STEP = 14;
     private static final int[] FAR = {-1, Integer.MIN_VALUE, Integer.MAX_VALUE, 99, 255, 256, 1 << 30};
 
     private final Random random;
@@ -91,6 +93,9 @@ public final class RandomRunsTest {
     }
 
     private void tell(String text) {
+        if (calls + text.length() + 2 > CALLS) {
+            return;
+        }
         if (below(8) > 0) {
             same("clear()", x.clear(), o.clear());
         }
@@ -172,7 +177,7 @@ public final class RandomRunsTest {
 
     private void play() {
         tell(text());
-        while (calls < CALLS) {
+        while (calls + CALLS_OF_A_STEP <= CALLS) {
             switch (below(60)) {
                 case 0 -> tell(text());
                 case 1, 2, 3 -> askOfLife();

@@ -12,7 +12,7 @@ import java.util.TreeSet;
 import java.util.regex.Matcher;
 import java.util.regex.Pattern;
 
-/** The public face as the document has it, and what of LANGUAGE.md a look at the file can tell. */
+/** The public face as the document has it, and words that may not stand in the file; LanguageTest has the rest. */
 public final class FaceTest {
     private static final String FACE = "back(1) clear(0) count(1) court(0) deed(2) does(2) done(2) fits(0) forget(0)"
             + " help(2) innocent(1) keep(1) lives(0) mark(2) odds(2) quorum(1) ring(1) saw(2) self(2) state(2)"
@@ -42,7 +42,6 @@ public final class FaceTest {
             } else {
                 hidden.add(method.getName());
             }
-            Check.due(method.getName() + " takes seven at most", method.getParameterCount() <= 7 ? 1 : 0, 1);
         }
         same("methods", String.join(" ", open), FACE);
         for (Class<?> inside : LaterJury.class.getDeclaredClasses()) {
@@ -83,41 +82,10 @@ public final class FaceTest {
         return Files.readString(Path.of("src/main/java/LaterJury.java"));
     }
 
-    /** Rules 5 and 11: static fields are final, and no class has too many of its own. */
     private static void classesInside() {
-        Class<?>[] inside = LaterJury.class.getDeclaredClasses();
-        Check.due("twelve classes at most", inside.length + 1 <= 12 ? 1 : 0, 1);
-        fields(LaterJury.class);
-        for (Class<?> one : inside) {
+        for (Class<?> one : LaterJury.class.getDeclaredClasses()) {
             Check.due(one + " is not seen from outside", one.getModifiers() & (Modifier.PUBLIC | Modifier.PROTECTED), 0);
-            fields(one);
         }
-    }
-
-    private static void fields(Class<?> one) {
-        int own = 0;
-        for (Field field : one.getDeclaredFields()) {
-            if (Modifier.isStatic(field.getModifiers())) {
-                Check.due(field + " is final", Modifier.isFinal(field.getModifiers()) ? 1 : 0, 1);
-            } else {
-                own++;
-            }
-        }
-        Check.due(one + " has twenty fields at most", own <= 20 ? 1 : 0, 1);
-    }
-
-    /** Rule 11: from a method's first line to the brace that stands as far in as it does. */
-    private static void methodsAreShort() throws IOException {
-        Matcher method = Pattern.compile("(?m)^( {4}| {8})(?=\\S)[\\w\\[\\] ]+\\([^)\\n]*\\) \\{\\n"
-                + "(?s:.*?)\\n\\1\\}").matcher(file());
-        int met = 0;
-        while (method.find()) {
-            long lines = method.group().lines().count();
-            String head = method.group().lines().findFirst().orElse("").trim();
-            Check.due(head + " has sixty lines at most", lines <= 60 ? 1 : 0, 1);
-            met++;
-        }
-        Check.due("all methods were looked at", met > 60 ? 1 : 0, 1);
     }
 
     private static void source() throws IOException {
@@ -135,7 +103,6 @@ public final class FaceTest {
         methods();
         fieldsAndConstructors();
         classesInside();
-        methodsAreShort();
         source();
         Check.end();
     }
